@@ -10,7 +10,6 @@ public final class HangedWords {
     private static final int MOST_WORDS = 8;
     private static final int SETS_OF_WORDS = 256;
     private static final int KINDS = 6;
-    private static final int HONEST = 0;
     private static final int MOST_NOTES = 6;
     private static final int MOST_MARKS = 6;
     private static final int MOST_UNDONE = 8;
@@ -226,7 +225,7 @@ public final class HangedWords {
         for (int w = 0; w < MOST_WORDS; w++) {
             if ((left >> w & 1) != 0) {
                 trial.copyFrom(table.game);
-                together += trial.playOn(table.words, kind, HONEST, w);
+                together += trial.playOn(table.words, kind, Holders.HONEST, w);
             }
         }
         fraction.put(together, Integer.bitCount(left));
@@ -587,85 +586,66 @@ public final class HangedWords {
 
     /** What holders answer; each kind falls back on the one that it stands under. Some word must be left. */
     private static final class Holders {
+        static final int HONEST = 0;
+        private static final int SLIPPERY = 1;
+        private static final int MEAN = 2;
+        private static final int MILD = 3;
+        private static final int MOODY = 4;
+        private static final int STUBBORN = 5;
+
         static int reply(int kind, Words words, int secret, int left, int guesses, int letter) {
-            switch (kind) {
-                case 1:
-                    return slippery(words, left, letter);
-                case 2:
-                    return grudging(words, left, letter);
-                case 3:
-                    return mild(words, left, letter);
-                case 4:
-                    return guesses % 2 == 1 ? grudging(words, left, letter) : honest(words, secret, left, letter);
-                case 5:
-                    return stubborn(words, secret, left, letter);
+            int kept = keptOf(secret, left);
+            switch (moodOf(kind, guesses)) {
+                case SLIPPERY:
+                    return words.commonestMask(left, letter);
+                case MEAN:
+                    return words.isLacking(left, letter) ? 0 : words.commonestMask(left, letter);
+                case MILD:
+                    return words.fullestMask(left, letter);
+                case STUBBORN:
+                    return halfAreLike(words, kept, left, letter)
+                            ? words.maskOf(kept, letter) : words.commonestMask(left, letter);
                 default:
-                    return honest(words, secret, left, letter);
+                    return words.maskOf(kept, letter);
             }
+        }
+
+        private static boolean halfAreLike(Words words, int kept, int left, int letter) {
+            return 2 * Integer.bitCount(words.alikeTo(kept, letter) & left) >= Integer.bitCount(left);
         }
 
         static int keptOf(int secret, int left) {
             return (left >> secret & 1) != 0 ? secret : leastOf(left);
         }
 
-        private static int honest(Words words, int secret, int left, int letter) {
-            return words.maskOf(keptOf(secret, left), letter);
-        }
-
-        private static int slippery(Words words, int left, int letter) {
-            int found = 0;
-            int most = 0;
-            for (int w = 0; w < words.size; w++) {
-                if ((left >> w & 1) != 0) {
-                    int mask = words.maskOf(w, letter);
-                    int having = Integer.bitCount(words.alikeTo(w, letter) & left);
-                    if (having > most || having == most && mask < found) {
-                        found = mask;
-                        most = having;
-                    }
-                }
+        /** As which other kind a moody holder answers now; all others are as they are. */
+        private static int moodOf(int kind, int guesses) {
+            if (kind != MOODY) {
+                return kind;
             }
-            return found;
-        }
-
-        /** The document's MEAN kind; the name is left to the public call. */
-        private static int grudging(Words words, int left, int letter) {
-            return (left & ~words.having(letter)) != 0 ? 0 : slippery(words, left, letter);
-        }
-
-        private static int mild(Words words, int left, int letter) {
-            int found = 0;
-            for (int w = 0; w < words.size; w++) {
-                int mask = words.maskOf(w, letter);
-                int more = Integer.bitCount(mask) - Integer.bitCount(found);
-                if ((left >> w & 1) != 0 && (more > 0 || more == 0 && mask > found)) {
-                    found = mask;
-                }
-            }
-            return found;
-        }
-
-        private static int stubborn(Words words, int secret, int left, int letter) {
-            int kept = keptOf(secret, left);
-            int having = Integer.bitCount(words.alikeTo(kept, letter) & left);
-            boolean half = 2 * having >= Integer.bitCount(left);
-            return half ? words.maskOf(kept, letter) : slippery(words, left, letter);
+            return guesses % 2 == 1 ? MEAN : HONEST;
         }
     }
 
     /** What guessers guess next; each kind falls back on the one that it stands under. */
     private static final class Guessers {
+        private static final int OFTEN = 1;
+        private static final int SURE = 2;
+        private static final int HALF = 3;
+        private static final int LAST = 4;
+        private static final int FIRST = 5;
+
         static int choice(int kind, Words words, int left, int guessed) {
             switch (kind) {
-                case 1:
+                case OFTEN:
                     return often(words, left, guessed);
-                case 2:
+                case SURE:
                     return sure(words, left, guessed);
-                case 3:
+                case HALF:
                     return half(words, left, guessed);
-                case 4:
+                case LAST:
                     return last(guessed);
-                case 5:
+                case FIRST:
                     return first(words, left, guessed);
                 default:
                     return row(guessed);
@@ -705,7 +685,7 @@ public final class HangedWords {
 
         private static int sure(Words words, int left, int guessed) {
             for (int l = 0; l < LETTERS; l++) {
-                if ((guessed >> l & 1) == 0 && (left & ~words.having(l)) == 0) {
+                if ((guessed >> l & 1) == 0 && !words.isLacking(left, l)) {
                     return l;
                 }
             }
@@ -736,9 +716,14 @@ public final class HangedWords {
         }
     }
 
-    /** The least number in a set of bits; NONE, if it is empty. */
+    /** The least word of a set; NONE, if it is empty. */
     private static int leastOf(int set) {
-        return set == 0 ? NONE : Integer.numberOfTrailingZeros(set);
+        for (int w = 0; w < MOST_WORDS; w++) {
+            if ((set >> w & 1) != 0) {
+                return w;
+            }
+        }
+        return NONE;
     }
 
     /** The words, and for each letter which of them have it, and which have it alike. Sets of words are bits. */
@@ -830,6 +815,40 @@ public final class HangedWords {
 
         int having(int letter) {
             return letter >= 0 && letter < LETTERS ? havers[letter] : 0;
+        }
+
+        /** Whether some word left has not got the letter. */
+        boolean isLacking(int left, int letter) {
+            return (left & ~having(letter)) != 0;
+        }
+
+        int commonestMask(int left, int letter) {
+            int found = 0;
+            int most = 0;
+            for (int w = 0; w < size; w++) {
+                if ((left >> w & 1) != 0) {
+                    int mask = maskOf(w, letter);
+                    int like = Integer.bitCount(alikeTo(w, letter) & left);
+                    if (like > most || like == most && mask < found) {
+                        found = mask;
+                        most = like;
+                    }
+                }
+            }
+            return found;
+        }
+
+        /** The mask of most places; of like ones the greatest. */
+        int fullestMask(int left, int letter) {
+            int found = 0;
+            for (int w = 0; w < size; w++) {
+                int mask = maskOf(w, letter);
+                int more = Integer.bitCount(mask) - Integer.bitCount(found);
+                if ((left >> w & 1) != 0 && (more > 0 || more == 0 && mask > found)) {
+                    found = mask;
+                }
+            }
+            return found;
         }
 
         int withMask(int left, int letter, int mask) {

@@ -48,6 +48,8 @@ public final class BestTest {
         checks.due(16, "best()", x.best(), 1);
         x.guess(0);
         checks.due(16, "best() behind guess(0)", x.best(), 1);
+        x = Checks.with(0, 0, 1111, 2222, 3333, 4444, 5555, 6666, 7777);
+        checks.due(16, "best(), all but one alike by each", x.best(), 0);
         HangedWords y = Checks.with(0, 8888);
         for (int l = 0; l < 10; l++) {
             checks.due(16, "best(), one left", y.best(), l);
@@ -107,10 +109,15 @@ public final class BestTest {
         nexts(x, 1, 1, 1, 1, 8, 1);
         HangedWords y = Checks.with(0, 1234, 5634, 7834);
         nexts(y, 0, 3, 3, 1, 9, 1);
+        // All eight have the same letters, so that none is nearer to half of them than another.
+        y = Checks.with(0, 1234, 1243, 1324, 1342, 1423, 1432, 2134, 2143);
+        nexts(y, 0, 1, 1, 0, 9, 1);
         HangedWords z = Checks.with(0, 8888);
-        for (int l = 9; l >= 0; l--) {
+        for (int l = 9; l >= 1; l--) {
             z.guess(l);
         }
+        nexts(z, 0, 0, 0, 0, 0, 0);
+        z.guess(0);
         nexts(z, -1, -1, -1, -1, -1, -1);
         checks.dueStatus(18, z, 0, 0, 0);
     }

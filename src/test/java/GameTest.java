@@ -171,6 +171,8 @@ public final class GameTest {
         faultAt("gamee 0;", 0);
         faultAt(" word 1 2 3 4;", 1);
         faultAt("hang 0;", 0);
+        faultAt("fame 0;", 0);
+        faultAt("game 0;lord 1 2 3 4;", 7);
         faultAt("0;", 0);
         faultAt(";", 0);
         faultAt("game;", 4);

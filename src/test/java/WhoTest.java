@@ -112,6 +112,8 @@ public final class WhoTest {
     private static void look() {
         HangedWords x = new HangedWords();
         checks.due(27, "look(), no words", x.look(), HangedWords.NONE);
+        x = Checks.with(0, 1111);
+        checks.due(27, "look(), all kinds alike", x.look(), 0);
         x = foursome();
         checks.due(27, "look(), all kinds", x.look(), 1);
         x.note(15, 0, 1, 8);
