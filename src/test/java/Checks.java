@@ -1,3 +1,5 @@
+import java.util.function.ToLongFunction;
+
 /** Counts answers that are not as due, and makes objects to ask; each test has one of its own. */
 final class Checks {
     private int made = 0;
@@ -32,6 +34,25 @@ final class Checks {
     /** A refused call leaves all that digest tells as it was. */
     void dueUnchanged(int promise, String call, HangedWords x, long digestBefore) {
         due(promise, "digest() behind " + call, x.digest(), digestBefore);
+    }
+
+    /** A call that is refused: its answer, and what of status it counts as; no other count moves. */
+    void dueRefused(int promise, String call, HangedWords x, ToLongFunction<HangedWords> makes, long answer) {
+        int bad = x.status(0);
+        int no = x.status(1);
+        int full = x.status(2);
+        due(promise, call, makes.applyAsLong(x), answer);
+        boolean isNo = answer == HangedWords.NO;
+        boolean isFull = answer == HangedWords.FULL;
+        dueStatus(promise, x, bad + (isNo || isFull ? 0 : 1), no + (isNo ? 1 : 0), full + (isFull ? 1 : 0));
+    }
+
+    int made() {
+        return made;
+    }
+
+    int wrong() {
+        return wrong;
     }
 
     void end() {
