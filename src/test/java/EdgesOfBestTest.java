@@ -125,6 +125,9 @@ public final class EdgesOfBestTest {
         checks.due(15, "parts(1, 1), all unlike", x.parts(1, 1), 1);
         checks.due(15, "parts(9, 0), all alike", x.parts(9, 0), 1);
         checks.due(15, "parts(9, 1), all alike", x.parts(9, 1), 8);
+        HangedWords z = Checks.with(0, 1000, 2000, 3000);
+        checks.due(15, "parts(1, 1), the first word is alone", z.parts(1, 1), 2);
+        checks.due(15, "parts(3, 1), the last word is alone", z.parts(3, 1), 2);
         HangedWords y = Checks.with(0, 1234);
         checks.due(15, "parts(1, 0), one word", y.parts(1, 0), 1);
         checks.due(15, "parts(1, 1), one word", y.parts(1, 1), 1);
@@ -161,6 +164,8 @@ public final class EdgesOfBestTest {
         checks.due(16, "best(), 1 and 7 alike", Checks.with(0, 7012, 1703, 2073).best(), 1);
         // Only 7 parts all three.
         checks.due(16, "best(), 7 alone", Checks.with(0, 7012, 712, 2071).best(), 7);
+        // Of eight words seven are alike by each letter that is in one of them.
+        checks.due(16, "best(), eight words", Checks.with(0, EIGHT).best(), 0);
         HangedWords y = Checks.with(0, 1111, 2222, 3333);
         y.guess(1);
         checks.due(16, "best(), one left, 1 guessed", y.best(), 0);
@@ -214,6 +219,10 @@ public final class EdgesOfBestTest {
         HangedWords x = Checks.with(0, 1111, 2222, 3333);
         x.guess(9);
         surelyIs(x, 2, 1);
+        // 1 is in both that are left, but elsewhere; that 3333 lacks it is nothing to them.
+        HangedWords y = Checks.with(0, 1200, 2100, 3333);
+        y.guess(3);
+        surelyIs(y, 0, 1);
     }
 
     private static void surelyAtTheWorst() {
@@ -324,6 +333,8 @@ public final class EdgesOfBestTest {
         // All or none are as near to half of two, so that 0 comes ahead of 3.
         nexts(3, 0, 3344, 4433);
         nexts(3, 0, 9999);
+        // As far from half as can be: all eight words have the same letters.
+        nexts(3, 0, 1234, 1243, 1324, 1342, 1423, 1432, 2134, 2143);
         HangedWords x = Checks.with(0, 3334, 4444, 4445);
         checks.due(18, "next(3), one of three", x.next(3), 3);
         x.guess(3);
@@ -471,6 +482,13 @@ public final class EdgesOfBestTest {
         // Of 36 pairs 21 lack both; of 84 threes 35.
         lucks(x, 2, 5, 12);
         lucks(x, 3, 7, 12);
+        HangedWords y = Checks.with(0, 0, 9999);
+        lucks(y, 1, 1, 5);
+        HangedWords z = Checks.with(0, 1110, 1119, 1111);
+        // 1110 is told by 0, and by 1 not, for 1119 has 1 where it has; 1111 by 1, and not by 0 or 9.
+        lucks(z, 1, 1, 10);
+        z.secret(2);
+        lucks(z, 1, 1, 10);
     }
 
     private static void luckOfOne() {
@@ -563,18 +581,31 @@ public final class EdgesOfBestTest {
 
     private static void pairsByEnds() {
         int[][] all = {{1123, 1213, 4561, 7891, 2345}, EIGHT, {5012, 5013, 5023, 6013}, {1000, 100, 10, 1, 2000},
-            {9876, 9875, 1234}, {1, 10, 100, 1000, 2, 20, 200, 2000}};
+            {9876, 9875, 1234}, {1, 10, 100, 1000, 2, 20, 200, 2000}, {1111, 2222}};
         for (int[] codes : all) {
             HangedWords x = Checks.with(0, codes);
             x.secret(1);
+            pairsRest(x, resting(x));
             x.guess(9);
-            List<Integer> pairs = resting(x);
-            checks.due(22, "against(NONE)", x.against(NONE), pairs.size());
-            for (int k = 0; k < pairs.size(); k++) {
-                checks.due(22, "against(" + k + ")", x.against(k), pairs.get(k));
-            }
-            checks.due(22, "against(one more)", x.against(pairs.size()), -5);
+            pairsRest(x, resting(x));
         }
+        // All holders but the mild one say no to 1, which guessers guess first, but for those by rows and from behind.
+        HangedWords y = Checks.with(0, 1111, 2222);
+        y.secret(1);
+        pairsRest(y, List.of(10, 11, 12, 14, 15, 20, 21, 22, 24, 25, 30, 31, 32, 34, 35, 50, 51, 52, 54, 55));
+        // Guessers by rows have fewer against a moody holder than all others.
+        HangedWords z = Checks.with(0, 3331, 2331, 2123, 3330);
+        z.secret(3);
+        pairsRest(z, List.of(11, 12, 21, 22, 51, 52));
+        pairsRest(Checks.with(0, 1310, 1330, 1212, 1203), List.of());
+    }
+
+    private static void pairsRest(HangedWords x, List<Integer> pairs) {
+        checks.due(22, "against(NONE)", x.against(NONE), pairs.size());
+        for (int k = 0; k < pairs.size(); k++) {
+            checks.due(22, "against(" + k + ")", x.against(k), pairs.get(k));
+        }
+        checks.due(22, "against(one more)", x.against(pairs.size()), -5);
     }
 
     /** The pairs that rest, by what ends answers when the holder is told to be of each kind. */

@@ -160,8 +160,18 @@ public final class EdgesOfGameTest {
         checks.due(2, "kinds(), no marks", x.kinds(), 63);
         checks.due(2, "undo()", x.undo(), NO);
         checks.due(2, "word(2222), which was there before", x.word(2222), 0);
+        checks.due(2, "next(1), by the new word", x.next(1), 2);
         checks.due(2, "guess(1), which was guessed before", x.guess(1), 0);
         checks.due(2, "count(4)", x.count(4), 0);
+        HangedWords y = Checks.with(0, 1111, 120);
+        y.game(0);
+        y.word(9999);
+        checks.due(2, "next(1), nothing is left of the first word", y.next(1), 9);
+        y.game(0);
+        y.word(7777);
+        y.word(8888);
+        checks.due(2, "next(1), nothing is left of either word", y.next(1), 7);
+        checks.due(2, "parts(1, 0), nothing is left of either word", y.parts(1, 0), 1);
     }
 
     private static void gameLeavesTheseAlone() {
@@ -388,5 +398,15 @@ public final class EdgesOfGameTest {
         x.type(';');
         checks.due(6, "read()", x.read(), 1);
         checks.due(6, "count(5)", x.count(5), 3);
+        // What was typed before would make a word or a number longer, or end an item.
+        Checks.typeAnew(x, "games 000;");
+        Checks.typeAnew(x, "game");
+        checks.due(6, "read() of a word that was longer", x.read(), -14);
+        Checks.typeAnew(x, "game 000;");
+        Checks.typeAnew(x, "game 00");
+        checks.due(6, "read() of a number that was longer", x.read(), -17);
+        Checks.typeAnew(x, "         ");
+        Checks.typeAnew(x, " ");
+        checks.due(6, "read() of fewer blanks", x.read(), -11);
     }
 }

@@ -201,7 +201,8 @@ public final class EdgesOfTextTest {
     // ---- faults of items
 
     private static void wordsThatAreNone() {
-        for (String none : new String[] {"gam", "games", "ame", "a", "z", "gamegame", "gamf", "hame", "gbme", "ganeg"}) {
+        for (String none : new String[] {"gam", "games", "ame", "a", "z", "gamegame", "gamf", "hame", "gbme", "ganeg",
+            "gamez", "gamea"}) {
             fault("|" + none + " 0;");
             fault("|" + none);
         }
@@ -453,6 +454,10 @@ public final class EdgesOfTextTest {
         checks.dueCounts(7, y, 1, 1, 1, 1, 0, 3, 0, 0, 0, 28);
         checks.due(7, "of(0, 0)", y.of(0, 0), 123);
         checks.due(7, "mask(0, 1)", y.mask(0, 1), 2);
+        Checks.typeAnew(y, "game 1;word 9 9 8 8;");
+        checks.due(7, "read() of another game", y.read(), 2);
+        checks.due(7, "next(1), nothing is left of the first game", y.next(1), 8);
+        checks.due(7, "mask(0, 1)", y.mask(0, 1), 0);
     }
 
     private static void leavesTheseAlone() {

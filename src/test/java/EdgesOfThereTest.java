@@ -154,6 +154,10 @@ public final class EdgesOfThereTest {
         checks.due(33, "is()", x.is(), busy().is());
         checks.due(33, "surely(0)", x.surely(0), busy().surely(0));
         checks.due(33, "against(-1)", x.against(-1), busy().against(-1));
+        for (int kind = 0; kind < 6; kind++) {
+            checks.due(33, "next(" + kind + ")", x.next(kind), busy().next(kind));
+            checks.due(33, "ends(" + kind + ", 0)", x.ends(kind, 0), busy().ends(kind, 0));
+        }
     }
 
     private static void whatImagesDoNotKeep() {

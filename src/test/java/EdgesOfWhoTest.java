@@ -295,6 +295,12 @@ public final class EdgesOfWhoTest {
         y.note(15, 0, 7, 15);
         checks.due(27, "is(), mild ones alone", y.is(), 8);
         checks.due(27, "look(), one kind", y.look(), 0);
+        // Honest ones alone: by 4 they part from all other kinds, but these are out already.
+        HangedWords z = Checks.with(0, 4561, 7891, 1123, 1145);
+        z.guess(0);
+        z.note(15, 1, 4, 1);
+        checks.due(27, "is(), honest ones alone", z.is(), 1);
+        checks.due(27, "look(), one kind", z.look(), 0);
     }
 
     private static void lookAsNow() {
@@ -379,6 +385,11 @@ public final class EdgesOfWhoTest {
         y.mark(1, 0, 9);
         checks.due(29, "kinds(), last ones alone", y.kinds(), 16);
         checks.due(29, "ask(), one kind", y.ask(), 1);
+        // Those by rows alone: by 3 they part from all other kinds, but these are out already.
+        HangedWords rows = Checks.with(0, 1111, 5555, 6666);
+        rows.mark(6, 0, 0);
+        checks.due(29, "kinds(), those by rows alone", rows.kinds(), 1);
+        checks.due(29, "ask(), one kind", rows.ask(), 1);
         // With 0 guessed the first seven words have 9 alone, so that sets without the eighth part no one: 128 is the
         // first that does (three say 1), and 129 parts them best (9 is the first of word 0).
         HangedWords z = Checks.with(0, 9000, 9900, 9990, 9999, 9090, 9009, 9909, 1);
@@ -398,6 +409,12 @@ public final class EdgesOfWhoTest {
             x.guess(l);
         }
         checks.due(29, "ask(), all guessed", x.ask(), 1);
+        // Those by rows and by halves guess 1 of either word alone, for 0 is guessed; of both words 1 and 5.
+        HangedWords y = Checks.with(0, 5555, 6666);
+        y.mark(1, 1, 1);
+        checks.due(29, "kinds()", y.kinds(), 1 + 8);
+        y.guess(0);
+        checks.due(29, "ask(), 0 guessed", y.ask(), 3);
     }
 
     // ---- evenings
@@ -430,20 +447,27 @@ public final class EdgesOfWhoTest {
         int[][] all = {{1111, 2222}, {5012, 5013, 5023, 6013, 1111, 9876, 42}, EIGHT};
         for (int[] codes : all) {
             for (int seed : new int[] {0, 1, 123456, 999999}) {
-                int kind = (seed + codes.length) % 6;
-                BigInteger x = BigInteger.valueOf(seed);
-                int together = 0;
-                for (int n = 1; n <= 60; n++) {
-                    x = x.multiply(BigInteger.valueOf(1103515245)).add(BigInteger.valueOf(12345))
-                            .mod(BigInteger.valueOf(2147483648L));
-                    HangedWords one = Checks.with(kind, codes);
-                    one.secret(x.divide(BigInteger.valueOf(65536)).mod(BigInteger.valueOf(codes.length)).intValue());
-                    together += one.ends(x.divide(BigInteger.valueOf(1048576)).mod(BigInteger.valueOf(6)).intValue(), 0);
-                    HangedWords other = Checks.with(kind, codes);
-                    other.guess(1);
-                    checks.due(30, "evenings(" + seed + ", " + n + ")", other.evenings(seed, n), together);
-                }
+                eveningsOf(seed, (seed + codes.length) % 6, codes);
             }
+        }
+        // By these X is just above or just below what 1048576 is in once more, so that the kind hangs on it.
+        for (int seed : new int[] {959, 1403, 16882, 21119}) {
+            eveningsOf(seed, 0, EIGHT);
+        }
+    }
+
+    private static void eveningsOf(int seed, int kind, int[] codes) {
+        BigInteger x = BigInteger.valueOf(seed);
+        int together = 0;
+        for (int n = 1; n <= 60; n++) {
+            x = x.multiply(BigInteger.valueOf(1103515245)).add(BigInteger.valueOf(12345))
+                    .mod(BigInteger.valueOf(2147483648L));
+            HangedWords one = Checks.with(kind, codes);
+            one.secret(x.divide(BigInteger.valueOf(65536)).mod(BigInteger.valueOf(codes.length)).intValue());
+            together += one.ends(x.divide(BigInteger.valueOf(1048576)).mod(BigInteger.valueOf(6)).intValue(), 0);
+            HangedWords other = Checks.with(kind, codes);
+            other.guess(1);
+            checks.due(30, "evenings(" + seed + ", " + n + ")", other.evenings(seed, n), together);
         }
     }
 
