@@ -44,6 +44,7 @@ public final class EdgesOfThereTest {
     }
 
     private static void countAndDigest(Edges edges) {
+        edges.edge(35, "An object is used for at most 512 calls after it has been made", EdgesOfThereTest::lastCall);
         edges.edge(35, "9 bytes of THE TEXT. BAD", EdgesOfThereTest::numbersOfCount);
         edges.edge(35, "How many: 0 WORDS, 1 LEFT, 2 GUESSED, 3 WRONG, 4 the SECRET", EdgesOfThereTest::countsAtTheirMost);
         edges.edge(36, "h = 1823; then h = 31 h + v for each v", EdgesOfThereTest::digestOfNothing);
@@ -342,6 +343,19 @@ public final class EdgesOfThereTest {
         }
         checks.due(35, "count(0)", x.count(0), 0);
         checks.due(35, "count(9)", x.count(9), 0);
+    }
+
+    private static void lastCall() {
+        HangedWords x = Checks.with(0, 1111, 2222);
+        for (int made = 3; made < 511; made++) {
+            x.count(10);
+        }
+        checks.due(35, "status(0), the 512th call", x.status(0), 508);
+        HangedWords y = Checks.with(0, 9999);
+        for (int made = 2; made < 511; made++) {
+            y.anew();
+        }
+        checks.due(35, "count(8), the 512th call", y.count(8), 8);
     }
 
     /** As full as an object can be; one word alone has nine wrong ones at most. */
