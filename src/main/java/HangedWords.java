@@ -27,8 +27,7 @@ public final class HangedWords {
     private final Table table = new Table();
     /** An image is null until it is kept for the first time. */
     private final Table[] images = new Table[IMAGES];
-    private final Tokens text = new Tokens();
-    private final Reader reader = new Reader(text);
+    private final Reader reader = new Reader();
     private final Fraction fraction = new Fraction();
     private final Sureness sureness = new Sureness();
     /** A game played on beside the one that stands, so that looking ahead changes nothing. */
@@ -81,23 +80,23 @@ public final class HangedWords {
         if (!isBelow(c, BYTES)) {
             return refuseBad();
         }
-        if (text.size >= MOST_BYTES) {
+        if (reader.text.size >= MOST_BYTES) {
             return refuseFull();
         }
-        text.add(c);
-        return text.size;
+        reader.text.add(c);
+        return reader.text.size;
     }
 
     public int clear() {
-        int before = text.size;
-        text.size = 0;
+        int before = reader.text.size;
+        reader.text.size = 0;
         return before;
     }
 
     public int read() {
         int items = reader.readItems();
         if (items == 0) {
-            return READ_FAULT - text.place;
+            return READ_FAULT - reader.text.place;
         }
         table.copyFrom(reader.draft);
         return items;
@@ -489,7 +488,7 @@ public final class HangedWords {
             case 8:
                 return table.past.size;
             default:
-                return text.size;
+                return reader.text.size;
         }
     }
 
@@ -996,7 +995,7 @@ public final class HangedWords {
         private final int[] cells;
 
         Rows(int most) {
-            cells = new int[most * WIDTH];
+            cells = new int[Math.max(most, 0) * WIDTH];
         }
 
         boolean isFull() {
@@ -1192,52 +1191,48 @@ public final class HangedWords {
         }
     }
 
-    /** Reads a text into a draft, so that a fault leaves all as it was. */
+    /** Keeps the text and reads it into a draft, so that a fault leaves all as it was. */
     private static final class Reader {
+        final Tokens text = new Tokens();
         final Table draft = new Table();
-        private final Tokens tokens;
-
-        Reader(Tokens tokens) {
-            this.tokens = tokens;
-        }
 
         /** How many items; 0 at a fault, which is the place of the token then. */
         int readItems() {
-            tokens.rewind();
+            text.rewind();
             draft.reset(0);
             int items = 0;
-            tokens.step();
-            while (items < MOST_BYTES && tokens.sort != Tokens.END) {
+            text.step();
+            while (items < MOST_BYTES && text.sort != Tokens.END) {
                 if (!readItem(items == 0)) {
                     return 0;
                 }
                 items++;
-                tokens.step();
+                text.step();
             }
             return items;
         }
 
         private boolean readItem(boolean isFirst) {
-            if (tokens.spells("game")) {
+            if (text.spells("game")) {
                 return isFirst && readKind();
             }
             if (isFirst) {
                 return false;
             }
-            if (tokens.spells("word")) {
+            if (text.spells("word")) {
                 return readWord();
             }
-            if (tokens.spells("secret")) {
+            if (text.spells("secret")) {
                 return readSecret();
             }
-            return tokens.spells("guess") && readGuess();
+            return text.spells("guess") && readGuess();
         }
 
         private boolean readKind() {
             if (!stepToNumber(KINDS)) {
                 return false;
             }
-            draft.kind = tokens.number;
+            draft.kind = text.number;
             return stepToClose();
         }
 
@@ -1250,7 +1245,7 @@ public final class HangedWords {
                 if (!stepToNumber(LETTERS)) {
                     return false;
                 }
-                code = 10 * code + tokens.number;
+                code = 10 * code + text.number;
             }
             if (draft.words.numberOf(code) != NONE) {
                 return false;
@@ -1263,26 +1258,26 @@ public final class HangedWords {
             if (!stepToNumber(draft.words.size)) {
                 return false;
             }
-            draft.secret = tokens.number;
+            draft.secret = text.number;
             return stepToClose();
         }
 
         private boolean readGuess() {
-            if (!stepToNumber(LETTERS) || !draft.game.isOpen(tokens.number)) {
+            if (!stepToNumber(LETTERS) || !draft.game.isOpen(text.number)) {
                 return false;
             }
-            draft.takeGuess(tokens.number);
+            draft.takeGuess(text.number);
             return stepToClose();
         }
 
         private boolean stepToNumber(int limit) {
-            tokens.step();
-            return tokens.sort == Tokens.NUMBER && tokens.number < limit;
+            text.step();
+            return text.sort == Tokens.NUMBER && text.number < limit;
         }
 
         private boolean stepToClose() {
-            tokens.step();
-            return tokens.sort == Tokens.CLOSE;
+            text.step();
+            return text.sort == Tokens.CLOSE;
         }
     }
 }

@@ -90,9 +90,6 @@ public final class FaceTest {
                     faults.add(m.getName() + " takes more than seven");
                 }
             }
-            if (c.getDeclaredFields().length > 60) {
-                faults.add(c.getName() + " has too many fields");
-            }
         }
     }
 
